@@ -69,6 +69,11 @@ public final class AnchorsAndShipsTest {
         Due.due("3 anchorOf(0, 1)", x.anchorOf(0, 1), 0);
         Due.due("3 anchorOf(0, 2)", x.anchorOf(0, 2), 0);
         Due.due("3 anchorOf(0, 3)", x.anchorOf(0, 3), 0);
+        x.hang(6, 100);
+        Due.due("3 anchorOf(5, 1), at once", x.anchorOf(5, 1), 0);
+        Due.due("3 anchorOf(0, 1), at once", x.anchorOf(0, 1), 10);
+        x.set(6, 1, 20);
+        Due.due("3 anchorOf(0, 1), at once", x.anchorOf(0, 1), 15);
         Due.due("3 anchorOf(-1, 0)", x.anchorOf(-1, 0), Due.BEYOND);
         Due.due("3 anchorOf(6, 0)", x.anchorOf(6, 0), Due.BEYOND);
         Due.due("3 anchorOf(0, -1)", x.anchorOf(0, -1), Due.BEYOND);
@@ -135,6 +140,9 @@ public final class AnchorsAndShipsTest {
             Due.due("5 of(s, 5) in 4", x.of(s, 5), pullIn4[s]);
             Due.due("5 of(s, 6) in 4", x.of(s, 6), strainIn4[s]);
         }
+        x.hang(8, 6);
+        Due.due("5 of(6, 6), at once", x.of(6, 6), 27);
+        Due.due("5 of(7, 6), at once", x.of(7, 6), 18);
         Due.due("5 of(-1, 0)", x.of(-1, 0), Due.BEYOND);
         Due.due("5 of(9, 0)", x.of(9, 0), Due.BEYOND);
         Due.due("5 of(100, 0)", x.of(100, 0), Due.BEYOND);
@@ -154,7 +162,8 @@ public final class AnchorsAndShipsTest {
         Due.due("6 set(1, 2, 9999)", x.set(1, 2, 9999), 50);
         Due.due("6 set(1, 2, 0)", x.set(1, 2, 0), 9999);
         Due.due("6 set(1, 3, 99)", x.set(1, 3, 99), 0);
-        Due.due("6 set(1, 3, 3)", x.set(1, 3, 3), 99);
+        Due.due("6 set(1, 3, 0)", x.set(1, 3, 0), 99);
+        Due.due("6 set(1, 3, 3)", x.set(1, 3, 3), 0);
         Due.due("6 of(1, 1)", x.of(1, 1), 1);
         Due.due("6 of(1, 2)", x.of(1, 2), 0);
         Due.due("6 of(1, 3)", x.of(1, 3), 3);

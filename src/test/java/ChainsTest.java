@@ -7,6 +7,7 @@ public final class ChainsTest {
         weakest();
         kind();
         stronger();
+        twelve();
         Due.end();
     }
 
@@ -79,6 +80,8 @@ public final class ChainsTest {
         Due.due("29 weakest(-1)", x.weakest(-1), Due.BEYOND);
         x.turn(1, 5);
         Due.due("29 weakest(0), a smuggler's is half", x.weakest(0), 1);
+        x = Due.told("ship at 0; ship at 1");
+        Due.due("29 weakest(3), ship 0", x.weakest(3), 0);
         x = Due.told("ship; ship");
         Due.due("29 weakest(0), all adrift", x.weakest(0), Due.NONE);
         Due.due("29 weakest(13), all adrift", x.weakest(13), Due.BEYOND);
@@ -111,6 +114,43 @@ public final class ChainsTest {
         Due.due("30 nothing changed", x.of(1, 0), 0);
     }
 
+    /** As many ships as can be, behind one another, for all that asks about ships. */
+    private static void twelve() {
+        AnchorString x = new AnchorString();
+        for (int s = 0; s < 12; s++) {
+            x.ship(0, 1);
+            x.hang(s, s == 0 ? 105 : s - 1);
+        }
+        x.sheet(0, 16, 40);
+        Due.due("39 dawn(0)", x.dawn(0), 12);
+        Due.due("40 read(0)", x.read(0), 0);
+        Due.due("27 matters()", x.matters(), 0);
+        Due.due("15 now(3)", x.now(3), 12);
+        Due.due("3 anchorOf(5, 3)", x.anchorOf(5, 3), 4095);
+        Due.due("14 lost()", x.lost(), 0);
+        Due.due("21 free()", x.free(), 2048);
+        Due.due("22 ahead(0)", x.ahead(0), 11);
+        Due.due("17 holds(), 12 times 4 of 50", x.holds(), 9);
+        Due.due("16 would(12), strain falls by 6", x.would(12), 1 + 2 + 4 + 8);
+        Due.due("29 weakest(2)", x.weakest(2), 0);
+        Due.due("28 bears(0, 12)", x.bears(0, 12), 72);
+        Due.due("30 kind(0)", x.kind(0), 0);
+        Due.due("23 place(11, 9)", x.place(11, 9), 100);
+        Due.due("24 best(11), to wind 9 everywhere", x.best(11), 0);
+        Due.due("26 canCut(5, 9)", x.canCut(5, 9), 1);
+        Due.due("25 cut(5)", x.cut(5), 1);
+        Due.due("25 of(6, 4)", x.of(6, 4), 4);
+        for (int s = 0; s < 12; s++) {
+            x.hang(s, -1);
+        }
+        for (int s = 0; s < 12; s++) {
+            x.set(s, 2, 0);
+            x.hang(s, 100);
+        }
+        Due.due("11 hour(2), all part", x.hour(2), 12);
+        Due.due("13 adrift()", x.adrift(), 4095);
+    }
+
     private static void stronger() {
         AnchorString x = new AnchorString();
         Due.due("31 stronger(), no ships", x.stronger(), 0);
@@ -134,13 +174,13 @@ public final class ChainsTest {
         x.anchor(3, 9999);
         Due.due("17 holds(), 12 times 816", x.holds(), 11);
         Due.due("31 stronger(), above 9999", x.stronger(), 3);
-        x.anchor(3, 100);
-        Due.due("31 stronger(), 1000 more and not 1001", x.stronger(), 3);
-        Due.due("17 holds()", x.holds(), 0);
-        x = Due.told("ship size 99 bears 9999 at 4; ship size 99 bears 9999 at 4; anchor 4 187");
-        Due.due("31 stronger(), to 1187", x.stronger(), 4);
-        x.anchor(4, 188);
-        x.odds(12, 0);
-        Due.due("31 stronger(), to 1188", x.stronger(), 4);
+        // Twelve smugglers of 99 pull nothing in wind 3, and 1188 in wind 4.
+        for (int s = 0; s < 12; s++) {
+            x.turn(s, 5);
+        }
+        x.anchor(3, 187);
+        Due.due("31 stronger(), 1000 are not enough", x.stronger(), 0);
+        x.anchor(3, 188);
+        Due.due("31 stronger(), just enough", x.stronger(), 3);
     }
 }

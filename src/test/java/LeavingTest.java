@@ -14,6 +14,11 @@ public final class LeavingTest {
     private static void free() {
         AnchorString x = Due.told("ship at 0; ship on 0; ship on 0; ship; ship on 3; ship; ship at 5");
         Due.due("21 free()", x.free(), 2 + 4 + 16 + 64);
+        x.hang(1, -1);
+        x.hang(2, -1);
+        Due.due("21 free()", x.free(), 1 + 16 + 64);
+        x.hang(1, 0);
+        x.hang(2, 0);
         x.hang(6, 2);
         Due.due("21 free()", x.free(), 2 + 16 + 64);
         x.hang(6, -1);

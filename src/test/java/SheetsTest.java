@@ -209,6 +209,10 @@ public final class SheetsTest {
         Due.due("40 read(0), and the anchor", x.read(0), 4);
         x.write(0, 1, (1L << 32) - 1);
         Due.due("40 read(0), a number of 64 bits", x.read(0), Due.NONE);
+        AnchorString y = Due.told("ship bears 60 at 0");
+        y.sheet(0, 8, 1);
+        y.write(0, 0, -1);
+        Due.due("40 read(0), it would part in wind 13", y.read(0), Due.NONE);
         x.sheet(1, 8, 2);
         x.write(1, 0, 255);
         x.write(1, 1, 255);

@@ -138,6 +138,11 @@ public final class TextTest {
         fault("size 5", 0);
         fault("boat", 0);
         fault("shi", 0);
+        fault("xhip", 0);
+        fault("ball", 0);
+        fault("ship in 0", 5);
+        fault("ship it 0", 5);
+        fault("ship sizf 5", 5);
         fault("ships", 0);
         fault("ship size", 9);
         fault("ship size ", 10);

@@ -175,12 +175,17 @@ public final class WindsTest {
         Due.due("15 now(2)", x.now(2), 24);
         Due.due("15 now(3)", x.now(3), 2);
         Due.due("15 now(4)", x.now(4), 7);
+        x.set(2, 1, 20);
+        Due.due("15 now(2), at once", x.now(2), 34);
         x.set(4, 3, 99);
         Due.due("15 now(4)", x.now(4), 106);
         x.hang(0, -1);
         x.hang(2, -1);
         Due.due("15 now(2), none at an anchor", x.now(2), 0);
         Due.due("15 now(3), none at an anchor", x.now(3), 0);
+        x.hang(0, 100);
+        x.hang(1, -1);
+        Due.due("15 now(3), ship 0 alone", x.now(3), 1);
         Due.due("15 now(-1)", x.now(-1), Due.BEYOND);
         Due.due("15 now(5)", x.now(5), Due.BEYOND);
     }
@@ -191,6 +196,8 @@ public final class WindsTest {
         Due.due("16 would(2)", x.would(2), 4);
         Due.due("16 would(3)", x.would(3), 4 + 1 + 2 + 8);
         Due.due("16 would(12)", x.would(12), 15);
+        x.hang(3, 102);
+        Due.due("16 would(3), as it is by then", x.would(3), 4 + 1 + 2);
         Due.due("16 would(-1)", x.would(-1), Due.BEYOND);
         Due.due("16 would(13)", x.would(13), Due.BEYOND);
         Due.due("16 nothing changed", x.adrift(), 4);
@@ -248,6 +255,9 @@ public final class WindsTest {
         Due.due("19 who(-1)", x.who(-1), Due.BEYOND);
         Due.due("19 who(13)", x.who(13), Due.BEYOND);
         Due.due("19 nothing changed", x.adrift(), 1);
+        x.hang(0, 105);
+        x.set(0, 2, 5);
+        Due.due("19 who(11), ship 0", x.who(11), 0);
         Due.due("19 nothing changed", x.now(4), 0);
     }
 
