@@ -65,8 +65,17 @@ final class Due {
         return x;
     }
 
-    /** All that can be seen of an object but status(): some 200 calls; it spoils ODDS. */
-    static String look(AnchorString x) {
+    /** So many ships of a kind and a size, all adrift. */
+    static AnchorString ships(int n, int kind, int size) {
+        AnchorString x = new AnchorString();
+        for (int s = 0; s < n; s++) {
+            x.ship(kind, size);
+        }
+        return x;
+    }
+
+    /** What section 1 of the document tells, and how long the tape is: at most 96 calls, which change nothing. */
+    static String state(AnchorString x) {
         StringBuilder b = new StringBuilder();
         int ships = x.count(0);
         b.append("ships ").append(ships).append(" hour ").append(x.now(0)).append(" wind ").append(x.now(1));
@@ -83,19 +92,39 @@ final class Due {
         }
         b.append(" | odds");
         for (int w = 0; w < 13; w++) {
-            b.append(' ').append(x.odds(w, 0));
+            int v = x.odds(w, 0);
+            x.odds(w, v);
+            b.append(' ').append(v);
         }
-        for (int s = 0; s < 4; s++) {
-            b.append(" | sheet");
-            for (int i = 0; i < 41; i++) {
-                long v = x.write(s, i, 0);
-                b.append(' ').append(v);
-                if (v < -1000000000) {
-                    break;
-                }
-            }
-        }
-        b.append(" | kept ").append(x.tear());
         return b.toString();
+    }
+
+    /** All numbers of a sheet, which stay, and the finding behind the last one. */
+    static String row(AnchorString x, int s) {
+        StringBuilder b = new StringBuilder();
+        for (int i = 0; i < 41; i++) {
+            long v = x.write(s, i, 0);
+            if (v < -1000000000) {
+                return b.append(v).toString();
+            }
+            x.write(s, i, v);
+            b.append(v).append(' ');
+        }
+        return b.toString();
+    }
+
+    /**
+     * All that can be seen of an object but status(), which it spoils: state and
+     * sheets, what is on the tape by what text() makes of it, and the image by
+     * what undo() brings back.
+     */
+    static String look(AnchorString x) {
+        StringBuilder b = new StringBuilder(state(x));
+        for (int s = 0; s < 4; s++) {
+            b.append("\n  sheet ").append(row(x, s));
+        }
+        b.append("\n  text ").append(x.text()).append(' ').append(state(x));
+        b.append("\n  undo ").append(x.undo()).append(' ').append(state(x));
+        return b.append("\n  kept ").append(x.tear()).toString();
     }
 }

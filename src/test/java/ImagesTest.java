@@ -1,4 +1,4 @@
-/** Promises 41 to 45, and that a call that answers a finding changes nothing but status(). */
+/** Promises 41 to 45. */
 public final class ImagesTest {
     public static void main(String[] args) {
         images();
@@ -6,7 +6,6 @@ public final class ImagesTest {
         latest();
         count();
         status();
-        findings();
         Due.end();
     }
 
@@ -45,18 +44,18 @@ public final class ImagesTest {
     }
 
     private static void whatIsKept() {
-        String before = Due.look(busy());
+        String before = Due.state(busy());
         AnchorString x = busy();
         x.image();
         change(x);
         Due.due("42 undo()", x.undo(), 4);
-        Due.same("42 all is back", Due.look(x).replace("kept 1", "kept 0"), before);
+        Due.same("42 all is back", Due.state(x), before);
         x = busy();
         x.image();
         x.undo();
         change(x);
         x.undo();
-        Due.same("42 what is kept stays as it was", Due.look(x).replace("kept 1", "kept 0"), before);
+        Due.same("42 what is kept stays as it was", Due.state(x), before);
         x = busy();
         Due.feed(x, "shi");
         x.sheet(0, 8, 2);
@@ -131,92 +130,5 @@ public final class ImagesTest {
         x.hour(-1);
         x.undo();
         Due.due("45 status(0)", x.status(0), 3);
-    }
-
-    private static void findings() {
-        String before = Due.look(ready());
-        for (int k = 0; k < 60; k++) {
-            AnchorString x = ready();
-            int said = x.status(-1);
-            long answer = refused(x, k);
-            if (answer == 0) {
-                break;
-            }
-            Due.due("45 refused " + k + " is a finding", answer < -1000000000 ? 1 : 0, 1);
-            Due.due("45 refused " + k + " counts", x.status(-1), said + 1);
-            Due.due("45 refused " + k + " counts by its own", x.status((int) (-1000000001 - answer)), 1);
-            Due.same("45 refused " + k, Due.look(x), before);
-        }
-    }
-
-    private static AnchorString ready() {
-        AnchorString x = busy();
-        while (x.count(0) < 12) {
-            x.ship(0, 5);
-        }
-        x.sheet(0, 8, 3);
-        x.write(0, 1, 77);
-        x.sheet(1, 16, 2);
-        Due.feed(x, "ship");
-        while (x.count(2) < 118) {
-            x.feed(0, 1);
-        }
-        return x;
-    }
-
-    private static long refused(AnchorString x, int k) {
-        switch (k) {
-            case 0: return x.anchor(3, 10000);
-            case 1: return x.anchorOf(9, 0);
-            case 2: return x.ship(0, 5);
-            case 3: return x.ship(0, 0);
-            case 4: return x.of(12, 0);
-            case 5: return x.set(0, 1, 0);
-            case 6: return x.hang(0, 2);
-            case 7: return x.hang(0, 0);
-            case 8: return x.turn(0, 6);
-            case 9: return x.as(0, 5);
-            case 10: return x.as(0, 7);
-            case 11: return x.odds(4, 100);
-            case 12: return x.hour(13);
-            case 13: return x.hours(101, 3);
-            case 14: return x.now(5);
-            case 15: return x.would(13);
-            case 16: return x.when(13);
-            case 17: return x.when(0);
-            case 18: return x.who(0);
-            case 19: return x.who(-1);
-            case 20: return x.ahead(12);
-            case 21: return x.place(0, 13);
-            case 22: return x.place(0, 12);
-            case 23: return x.best(12);
-            case 24: return x.cut(3);
-            case 25: return x.cut(12);
-            case 26: return x.canCut(3, 3);
-            case 27: return x.canCut(0, 13);
-            case 28: return x.bears(3, 3);
-            case 29: return x.bears(0, 13);
-            case 30: return x.weakest(13);
-            case 31: return x.kind(12);
-            case 32: return x.feed(5, 3);
-            case 33: return x.feed(5, 0);
-            case 34: return x.sheet(0, 9, 3);
-            case 35: return x.sheet(0, 8, -3);
-            case 36: return x.sheet(0, 0, 41);
-            case 37: return x.write(0, 3, 3);
-            case 38: return x.write(2, 0, 3);
-            case 39: return x.copy(0, 0, 1, 0, 1);
-            case 40: return x.copy(0, 0, 0, 1, 3);
-            case 41: return x.copy(0, 0, 2, 1, 3);
-            case 42: return x.lays(2);
-            case 43: return x.lays(4);
-            case 44: return x.dawn(2);
-            case 45: return x.read(2);
-            case 46: return x.read(0);
-            case 47: return x.undo();
-            case 48: return x.count(4);
-            case 49: return x.status(7);
-            default: return 0;
-        }
     }
 }

@@ -38,7 +38,7 @@ public final class ModelTest {
     private boolean go(long seed) {
         int shape = random.nextInt(4);
         most = 2 + random.nextInt(11);
-        while (calls < 500) {
+        while (calls < 475) {
             boolean fine = random.nextInt(60) == 0 ? tellText() : shape == 0 ? any()
                     : random.nextInt(20) == 0 ? scene() : likely(shape);
             if (!fine) {
