@@ -27,6 +27,7 @@ public final class TextEdgesTest {
         endsTooEarly();
         firstFaultAlone();
         thirteenth();
+        mostTokens();
         faultInTheLastByte();
         faultChangesNothing();
         tapeIsEmptyThen();
@@ -409,6 +410,13 @@ public final class TextEdgesTest {
             fault("anchor " + name, 7);
             fault("odds 0 " + name, 7);
         }
+        for (String name : names) {
+            fault("x" + name.substring(1) + " 0 0", 0);
+            fault(name.substring(0, name.length() - 1) + "x 0 0", 0);
+            fault(name.substring(0, name.length() - 1) + " 0 0", 0);
+        }
+        fault("hang 0 in 1", 7);
+        fault("hang 0 an 1", 7);
         fault("hang 0 size 5", 7);
         fault("hang 0 bears 5", 7);
         fault("ship size on 0", 10);
@@ -453,6 +461,22 @@ public final class TextEdgesTest {
             Due.due("34 a 12th and a 13th", Due.text(x, "ship;" + name + " on 10;" + name), -13 - name.length());
             Due.due("34 none came", x.count(0), 10);
         }
+    }
+
+    /** As many tokens as there can be bytes. */
+    private static void mostTokens() {
+        for (char c : new char[] {';', '?', (char) 255}) {
+            StringBuilder b = new StringBuilder();
+            while (b.length() < 120) {
+                b.append(c);
+            }
+            fault(b.toString(), 0);
+        }
+        StringBuilder b = new StringBuilder("ship");
+        while (b.length() < 120) {
+            b.append(';');
+        }
+        fault(b.toString(), 5);
     }
 
     private static void faultInTheLastByte() {

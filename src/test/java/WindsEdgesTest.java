@@ -18,6 +18,7 @@ public final class WindsEdgesTest {
         whenByWear();
         whenWornNoMore();
         whoOfSeveral();
+        whoNone();
         whoByAnAnchor();
         sure();
         Due.end();
@@ -277,6 +278,21 @@ public final class WindsEdgesTest {
         x.set(0, 2, 10);
         Due.due("19 not one that goes an hour later", x.who(2), 1);
         Due.due("18 in the first hour", x.when(2), 1);
+    }
+
+    /** "NONE.": of no ships, and of as many as can be. */
+    private static void whoNone() {
+        AnchorString x = new AnchorString();
+        Due.due("18 no ships", x.when(12), Due.NONE);
+        Due.due("19 no ships", x.who(12), Due.NONE);
+        x = Due.ships(12, 0, 10);
+        Due.due("18 twelve adrift", x.when(12), Due.NONE);
+        Due.due("19 twelve adrift", x.who(12), Due.NONE);
+        for (int s = 0; s < 12; s++) {
+            x.hang(s, 100 + s % 6);
+        }
+        Due.due("18 twelve that hold", x.when(5), Due.NONE);
+        Due.due("19 twelve that hold", x.who(5), Due.NONE);
     }
 
     private static void whoByAnAnchor() {
