@@ -24,6 +24,7 @@ public final class TextEdgesTest {
         hangNoRing();
         odds();
         anotherWord();
+        aNumberForAWord();
         endsTooEarly();
         firstFaultAlone();
         thirteenth();
@@ -204,6 +205,10 @@ public final class TextEdgesTest {
             fault("ship" + odd, 4);
             fault("ship size " + odd, 10);
             fault("ship;" + odd + "ship", 5);
+            fault("odds 1 2" + odd, 8);
+            fault("odds 1" + odd + " 2", 6);
+            fault("odds 1 " + odd + "2", 7);
+            fault("ship size" + odd + " 2", 9);
         }
     }
 
@@ -422,6 +427,21 @@ public final class TextEdgesTest {
         fault("ship size on 0", 10);
     }
 
+    /** "the first TOKEN that can't stand there": a NUMBER, whichever, where a WORD must. */
+    private static void aNumberForAWord() {
+        for (int n = 0; n <= 30; n++) {
+            String number = String.valueOf(n);
+            fault(number, 0);
+            fault(number + " 0 5", 0);
+            fault("ship " + number + " 2", 5);
+            fault("ship size 5 " + number + " 2", 12);
+            fault("ship size 5 bears 6 " + number + " 2", 20);
+            fault("ship size 5 bears 6 worn 7 " + number + " 2", 27);
+            fault("hang 0 " + number + " 2", 7);
+            fault("ship " + number + " ship", 5);
+        }
+    }
+
     /** "how many bytes there are if it ends too early": at each place where it may, with blanks behind it. */
     private static void endsTooEarly() {
         String[] early = {"ship;", "ship size", "ship bears", "ship worn", "ship on", "ship at", "anchor", "anchor 0", "hang",
@@ -489,6 +509,12 @@ public final class TextEdgesTest {
         fault(b + "?", 119);
         fine(b + " ", 1);
         fine(b.toString(), 1);
+        String blanks = " ".repeat(119);
+        fault(blanks + "?", 119);
+        fault(blanks + ";", 119);
+        fault(blanks + "5", 119);
+        fault(blanks + "a", 119);
+        fault(blanks, 119);
     }
 
     /** "(nothing changes but that THE TAPE is empty; no finding)" */
